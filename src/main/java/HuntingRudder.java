@@ -12,12 +12,9 @@ public final class HuntingRudder {
     private static final int THERE_IS_NONE = -2;
     private static final int OFF_LEAST = -1800;
     private static final int OFF_MOST = 1799;
-    private static final int TAPE_MOST = 600;
-    private static final int FEED_BYTES = 20;
     private static final int LED_STEPS_MOST = 1500;
     private static final int STEPS_MOST = 200;
 
-    private final byte[] tape = new byte[TAPE_MOST];
     private final Settings settings = new Settings();
     private final Settings tried = new Settings();
     private final State state = new State();
@@ -26,41 +23,30 @@ public final class HuntingRudder {
     private final Groups groups = new Groups();
     private final Drill way = new Drill();
     private final Trial trial = new Trial();
+    private final TextReader reader = new TextReader();
     private Text helm = new Text();
-    private Text draft = new Text();
-    private final TextReader reader = new TextReader(tape, draft);
-    private int tapeLength;
 
     public HuntingRudder() {
     }
 
     public int feed(int a, int b, int c, int d, int e) {
-        if (tapeLength + FEED_BYTES > TAPE_MOST) {
+        Tape tape = reader.tape;
+        if (!tape.hasRoom()) {
             return NONE;
         }
-        putOnTape(a);
-        putOnTape(b);
-        putOnTape(c);
-        putOnTape(d);
-        putOnTape(e);
-        return tapeLength;
-    }
-
-    private void putOnTape(int number) {
-        for (int shift = 24; shift >= 0; shift -= 8) {
-            if (tapeLength < tape.length) {
-                tape[tapeLength] = (byte) (number >>> shift);
-                tapeLength++;
-            }
-        }
+        tape.put(a);
+        tape.put(b);
+        tape.put(c);
+        tape.put(d);
+        tape.put(e);
+        return tape.held;
     }
 
     public int text(int n) {
-        if (n < 0 || n > tapeLength) {
+        if (n < 0 || n > reader.tape.held) {
             return THERE_IS_NONE;
         }
-        tapeLength = 0;
-        reader.open(n, draft);
+        reader.open(n);
         boolean good = true;
         for (int left = n; left > 0 && good && !reader.atEnd(); left--) {
             good = reader.readLine();
@@ -68,9 +54,7 @@ public final class HuntingRudder {
         if (!good || !reader.close()) {
             return NONE;
         }
-        Text ahead = helm;
-        helm = draft;
-        draft = ahead;
+        helm = reader.exchange(helm);
         wake.forget();
         return helm.lines;
     }
@@ -119,8 +103,9 @@ public final class HuntingRudder {
             return NO_VALUE;
         }
         state.start(off);
-        for (int step = 0; step < n; step++) {
-            state.step(helm.orderIn(state), settings);
+        boolean moves = true;
+        for (int step = 0; step < n && moves; step++) {
+            moves = state.goOn(helm, settings);
         }
         return state.look(what);
     }
@@ -191,8 +176,9 @@ public final class HuntingRudder {
     private int farthest(int from, int n, Settings by, int enough) {
         state.start(from);
         int far = Math.abs(from);
-        for (int step = 0; step < n && far <= enough; step++) {
-            state.step(helm.orderIn(state), by);
+        boolean moves = true;
+        for (int step = 0; step < n && far <= enough && moves; step++) {
+            moves = state.goOn(helm, by);
             far = Math.max(far, Math.abs(state.off));
         }
         return far;
@@ -434,6 +420,16 @@ public final class HuntingRudder {
             }
         }
 
+        /**
+         * A STEP by a TEXT; false if the STATE behind it is that ahead of it: then it is that behind
+         * all later ones too, and they need not be worked out.
+         */
+        boolean goOn(Text text, Settings by) {
+            long ahead = packed();
+            step(text.orderIn(this), by);
+            return packed() != ahead;
+        }
+
         private int lagging(int order, int lag) {
             switch (lag) {
                 case 1:
@@ -627,7 +623,7 @@ public final class HuntingRudder {
                     return a - b;
                 case TIMES:
                     // Asked ahead of the product, which could go round in a long.
-                    return b != 0 && Math.abs(a) > GREATEST / Math.abs(b) ? ERROR : a * b;
+                    return b != 0 && (a < 0 ? -a : a) > GREATEST / (b < 0 ? -b : b) ? ERROR : a * b;
                 case BY:
                     return b == 0 ? ERROR : a / b;
                 default:
@@ -811,8 +807,8 @@ public final class HuntingRudder {
         }
     }
 
-    /** The TOKENS of the bytes on the TAPE, one at a time. */
-    private static final class Tokens {
+    /** The TAPE, and the TOKENS of a TEXT on it, one at a time. */
+    private static final class Tape {
         static final int END = 0;
         static final int WORD = 1;
         static final int OWN_WORD = 2;
@@ -835,19 +831,34 @@ public final class HuntingRudder {
         /** Beyond every number that a TEXT may have: more digits need not be told apart. */
         private static final int TOO_GREAT = 10_000;
 
-        private final byte[] bytes;
+        private static final int BYTES_MOST = 600;
+        private static final int FEED_BYTES = 20;
+
+        private final byte[] bytes = new byte[BYTES_MOST];
+        int held;
         private int length;
         private int next;
         int kind;
         int value;
         int place;
 
-        Tokens(byte[] bytes) {
-            this.bytes = bytes;
+        boolean hasRoom() {
+            return held + FEED_BYTES <= BYTES_MOST;
         }
 
+        void put(int number) {
+            for (int shift = 24; shift >= 0; shift -= 8) {
+                if (held < BYTES_MOST) {
+                    bytes[held] = (byte) (number >>> shift);
+                    held++;
+                }
+            }
+        }
+
+        /** Comes to the first TOKEN of a TEXT of n bytes; the next feed comes in their stead. */
         void open(int n) {
-            length = Math.min(n, bytes.length);
+            length = Math.min(n, BYTES_MOST);
+            held = 0;
             next = 0;
             advance();
         }
@@ -982,14 +993,14 @@ public final class HuntingRudder {
         private static final int BEHIND_OPERAND = 2;
         private static final int BEHIND_END = 3;
 
-        private final Tokens tokens;
+        final Tape tape = new Tape();
         /** Signs read whose right side isn't yet, and the '(' among them. */
         private final int[] waiting = new int[Knots.MOST + OPEN_MOST];
         /** The KNOTS of each GEAR's B and, behind these, of safe's; none where there is no B. */
         private final int[] froms = new int[Text.GEARS_MOST + 1];
         private final int[] tos = new int[Text.GEARS_MOST + 1];
-        private Text into;
-        private Knots list;
+        private Text into = new Text();
+        private Knots list = into.orders;
         private boolean ofGears;
         private int waitings;
         private int opened;
@@ -998,23 +1009,16 @@ public final class HuntingRudder {
         int fault;
         int faultPlace = NONE;
 
-        TextReader(byte[] tape, Text draft) {
-            tokens = new Tokens(tape);
-            into = draft;
-            list = draft.orders;
-        }
-
-        void open(int n, Text draft) {
-            into = draft;
+        void open(int n) {
             into.clear();
             hasSafe = false;
             fault = 0;
             faultPlace = NONE;
-            tokens.open(n);
+            tape.open(n);
         }
 
         boolean atEnd() {
-            return tokens.kind == Tokens.END;
+            return tape.kind == Tape.END;
         }
 
         /** Asked behind the last LINE, as a W may come ahead of its GEAR. */
@@ -1034,26 +1038,33 @@ public final class HuntingRudder {
             return true;
         }
 
+        /** Hands out the TEXT that was read; the next one is read into the other. */
+        Text exchange(Text other) {
+            Text read = into;
+            into = other;
+            return read;
+        }
+
         private boolean refuse(int kind) {
             fault = kind;
-            faultPlace = tokens.place;
+            faultPlace = tape.place;
             return false;
         }
 
         boolean readLine() {
             boolean good;
-            switch (tokens.kind == Tokens.WORD ? tokens.value : 0) {
-                case Tokens.IF:
-                case Tokens.WHEEL:
+            switch (tape.kind == Tape.WORD ? tape.value : 0) {
+                case Tape.IF:
+                case Tape.WHEEL:
                     good = readWheelLine();
                     break;
-                case Tokens.GEAR:
+                case Tape.GEAR:
                     good = readGearLine();
                     break;
-                case Tokens.SAFE:
+                case Tape.SAFE:
                     good = readSafeLine();
                     break;
-                case Tokens.ROW:
+                case Tape.ROW:
                     good = readRowLine();
                     break;
                 default:
@@ -1066,17 +1077,17 @@ public final class HuntingRudder {
             if (!atSign(Knots.SEMICOLON)) {
                 return refuse(CANNOT_STAND);
             }
-            tokens.advance();
+            tape.advance();
             into.lines++;
             return true;
         }
 
         private boolean atSign(int sign) {
-            return tokens.kind == Tokens.SIGN && tokens.value == sign;
+            return tape.kind == Tape.SIGN && tape.value == sign;
         }
 
         private boolean atWord(int word) {
-            return tokens.kind == Tokens.WORD && tokens.value == word;
+            return tape.kind == Tape.WORD && tape.value == word;
         }
 
         private boolean readWheelLine() {
@@ -1084,17 +1095,17 @@ public final class HuntingRudder {
                 return refuse(TOO_MUCH);
             }
             into.startWheelLine();
-            if (atWord(Tokens.IF)) {
-                tokens.advance();
+            if (atWord(Tape.IF)) {
+                tape.advance();
                 if (!readExpression(into.orders, false)) {
                     return false;
                 }
                 into.endIf();
             }
-            if (!atWord(Tokens.WHEEL)) {
+            if (!atWord(Tape.WHEEL)) {
                 return refuse(CANNOT_STAND);
             }
-            tokens.advance();
+            tape.advance();
             if (!readExpression(into.orders, false)) {
                 return false;
             }
@@ -1107,21 +1118,21 @@ public final class HuntingRudder {
             if (gear >= Text.GEARS_MOST) {
                 return refuse(TOO_MUCH);
             }
-            tokens.advance();
-            if (tokens.kind != Tokens.OWN_WORD) {
+            tape.advance();
+            if (tape.kind != Tape.OWN_WORD) {
                 return refuse(CANNOT_STAND);
             }
-            if (into.gearOf(tokens.value) != NONE) {
+            if (into.gearOf(tape.value) != NONE) {
                 return refuse(TOLD_ALREADY);
             }
-            into.addGear(tokens.value);
-            tokens.advance();
+            into.addGear(tape.value);
+            tape.advance();
             froms[gear] = into.conditions.written;
             tos[gear] = into.conditions.written;
-            if (!atWord(Tokens.IF)) {
+            if (!atWord(Tape.IF)) {
                 return true;
             }
-            tokens.advance();
+            tape.advance();
             if (!readExpression(into.conditions, true)) {
                 return false;
             }
@@ -1134,7 +1145,7 @@ public final class HuntingRudder {
                 return refuse(TOLD_ALREADY);
             }
             hasSafe = true;
-            tokens.advance();
+            tape.advance();
             froms[Text.GEARS_MOST] = into.conditions.written;
             if (!readExpression(into.conditions, true)) {
                 return false;
@@ -1147,15 +1158,15 @@ public final class HuntingRudder {
             if (into.rows >= Text.ROWS_MOST) {
                 return refuse(TOO_MUCH);
             }
-            tokens.advance();
-            if (tokens.kind != Tokens.NUMBER) {
+            tape.advance();
+            if (tape.kind != Tape.NUMBER) {
                 return refuse(CANNOT_STAND);
             }
-            if (tokens.value < 1 || tokens.value > 9) {
+            if (tape.value < 1 || tape.value > 9) {
                 return refuse(TOO_MUCH);
             }
-            into.addRow(tokens.value);
-            tokens.advance();
+            into.addRow(tape.value);
+            tape.advance();
             boolean good = readRowOrder();
             for (int left = Text.ROW_MOST; left > 0 && good && !atSign(Knots.SEMICOLON); left--) {
                 good = readRowOrder();
@@ -1166,16 +1177,16 @@ public final class HuntingRudder {
         private boolean readRowOrder() {
             boolean negative = atSign(Knots.MINUS);
             if (negative) {
-                tokens.advance();
+                tape.advance();
             }
-            if (tokens.kind != Tokens.NUMBER) {
+            if (tape.kind != Tape.NUMBER) {
                 return refuse(CANNOT_STAND);
             }
-            if (into.latestLength() >= Text.ROW_MOST || tokens.value > State.STOP) {
+            if (into.latestLength() >= Text.ROW_MOST || tape.value > State.STOP) {
                 return refuse(TOO_MUCH);
             }
-            into.addRowOrder(negative ? -tokens.value : tokens.value);
-            tokens.advance();
+            into.addRowOrder(negative ? -tape.value : tape.value);
+            tape.advance();
             return true;
         }
 
@@ -1187,10 +1198,10 @@ public final class HuntingRudder {
             opened = 0;
             phase = AT_BEGIN;
             boolean good = true;
-            for (int left = tokens.bytesInAll(); left >= 0 && good && phase != BEHIND_END; left--) {
+            for (int left = tape.bytesInAll(); left >= 0 && good && phase != BEHIND_END; left--) {
                 good = phase == BEHIND_OPERAND ? goOnBehindOperand() : readOperand();
                 if (good && phase != BEHIND_END) {
-                    tokens.advance();
+                    tape.advance();
                 }
             }
             return good;
@@ -1204,17 +1215,17 @@ public final class HuntingRudder {
                 opened++;
                 return putOff(Knots.OPEN, AT_BEGIN);
             }
-            if (phase == AT_BEGIN && atWord(Tokens.NOT)) {
+            if (phase == AT_BEGIN && atWord(Tape.NOT)) {
                 return list.addOne() ? putOff(Knots.NOT, AT_BEGIN) : refuse(TOO_MUCH);
             }
             int operand = ofGears ? gearWordHere() : valueHere();
             if (operand == Knots.NOTHING) {
                 return refuse(CANNOT_STAND);
             }
-            if (tokens.kind == Tokens.NUMBER && operand > NUMBER_MOST || !list.addOne()) {
+            if (tape.kind == Tape.NUMBER && operand > NUMBER_MOST || !list.addOne()) {
                 return refuse(TOO_MUCH);
             }
-            list.write(operand, tokens.place);
+            list.write(operand, tape.place);
             phase = BEHIND_OPERAND;
             return true;
         }
@@ -1229,23 +1240,23 @@ public final class HuntingRudder {
         }
 
         private int gearWordHere() {
-            return tokens.kind == Tokens.OWN_WORD ? tokens.value : Knots.NOTHING;
+            return tape.kind == Tape.OWN_WORD ? tape.value : Knots.NOTHING;
         }
 
         private int valueHere() {
-            if (tokens.kind == Tokens.NUMBER) {
-                return tokens.value;
+            if (tape.kind == Tape.NUMBER) {
+                return tape.value;
             }
-            switch (tokens.kind == Tokens.WORD ? tokens.value : 0) {
-                case Tokens.WHEEL:
+            switch (tape.kind == Tape.WORD ? tape.value : 0) {
+                case Tape.WHEEL:
                     return -1 - State.WHEEL;
-                case Tokens.RAM:
+                case Tape.RAM:
                     return -1 - State.RAM;
-                case Tokens.RUDDER:
+                case Tape.RUDDER:
                     return -1 - State.RUDDER;
-                case Tokens.TURN:
+                case Tape.TURN:
                     return -1 - State.TURN;
-                case Tokens.OFF:
+                case Tape.OFF:
                     return -1 - State.OFF;
                 default:
                     return Knots.NOTHING;
@@ -1294,20 +1305,20 @@ public final class HuntingRudder {
 
         /** The sign between two operands that stands here, or NOTHING. */
         private int signHere() {
-            if (atWord(Tokens.AND)) {
+            if (atWord(Tape.AND)) {
                 return Knots.AND;
             }
-            if (atWord(Tokens.OR)) {
+            if (atWord(Tape.OR)) {
                 return Knots.OR;
             }
-            return tokens.kind == Tokens.SIGN && !ofGears ? tokens.value : Knots.NOTHING;
+            return tape.kind == Tape.SIGN && !ofGears ? tape.value : Knots.NOTHING;
         }
 
         /** Both sides of the latest signs of this rank and above are known: they can be written. */
         private void writeWaiting(int rank) {
             while (waitings > 0 && Knots.rank(waiting[waitings - 1]) >= rank) {
                 waitings--;
-                list.write(waiting[waitings], tokens.place);
+                list.write(waiting[waitings], tape.place);
             }
         }
     }
@@ -1491,9 +1502,10 @@ public final class HuntingRudder {
             fail(suspect, tried);
             state.start(start);
             int step = 0;
+            boolean moves = true;
             for (int m = 0; m < marks; m++) {
-                while (step < steps[m]) {
-                    state.step(text.orderIn(state), tried);
+                while (step < steps[m] && moves) {
+                    moves = state.goOn(text, tried);
                     step++;
                 }
                 if (Math.abs(state.off - offs[m]) > distance) {

@@ -30,6 +30,9 @@ public final class PlainModelTest {
             new PlainModelTest(seed, checks).textRun();
             new PlainModelTest(seed, checks).callRun();
         }
+        for (int seed = 0; seed < 6 * seeds; seed++) {
+            new PlainModelTest(seed, checks).suspectRun();
+        }
         checks.end("PlainModelTest");
     }
 
@@ -272,6 +275,66 @@ public final class PlainModelTest {
             }
             int what = near(0, 13);
             ask("count(" + what + ")", x.count(what), y.count(what));
+        }
+    }
+
+    /** MARKS and distances by which just one or two PARTS must fail, and many SUSPECTS fit. */
+    private void suspectRun() {
+        x = new HuntingRudder();
+        y = new PlainModel();
+        for (int k = 0; k < 6; k++) {
+            read(LAWS[below(LAWS.length)] + rows(from(2, 6)));
+            askSettings();
+            x.wipe();
+            y.wipe();
+            int off = from(-300, 300);
+            int step = from(5, 60);
+            int seen = from(-1800, 1799);
+            if (below(4) > 0) {
+                int[] were = {x.count(9), x.count(10), x.count(11), x.count(12), x.count(13)};
+                x.part(below(5), from(0, 9));
+                x.part(below(5), from(0, 9));
+                seen = x.led(off, step, 4);
+                for (int part = 0; part < 5; part++) {
+                    x.part(part, were[part]);
+                }
+            }
+            ask("mark", x.mark(step, seen), y.mark(step, seen));
+            int none = Math.abs(x.led(off, step, 4) - seen);
+            int one = nearestByOne(off, step, seen);
+            askAllOf(Math.max(0, Math.min(none, one + below(4)) - below(2)), off);
+            askAllOf(Math.max(0, one - 1), off);
+        }
+    }
+
+    /** How near one PART that fails can bring OFF behind a STEP to what was seen. */
+    private int nearestByOne(int off, int step, int seen) {
+        int nearest = Math.abs(x.led(off, step, 4) - seen);
+        for (int part = 0; part < 5; part++) {
+            int was = x.count(9 + part);
+            for (int value = 0; value <= 9; value++) {
+                if (x.part(part, value)) {
+                    nearest = Math.min(nearest, Math.abs(x.led(off, step, 4) - seen));
+                }
+            }
+            x.part(part, was);
+        }
+        return nearest;
+    }
+
+    private void askAllOf(int d, int off) {
+        for (int what = 0; what < 4; what++) {
+            ask("fits(" + d + ", " + off + ", " + what + ")", x.fits(d, off, what), y.fits(d, off, what));
+        }
+        int suspects = y.fits(d, off, 1);
+        for (int k = 0; k <= suspects; k++) {
+            for (int what = 0; what < 4; what++) {
+                ask("suspect(" + d + ", " + off + ", " + k + ", " + what + ")", x.suspect(d, off, k, what), y.suspect(d, off, k, what));
+            }
+        }
+        for (int n : new int[] {1, 3, from(4, 12), from(13, 60)}) {
+            ask("parts(" + d + ", " + off + ", " + n + ", 0)", x.parts(d, off, n, 0), y.parts(d, off, n, 0));
+            ask("parts(" + d + ", " + off + ", " + n + ", 1)", x.parts(d, off, n, 1), y.parts(d, off, n, 1));
         }
     }
 

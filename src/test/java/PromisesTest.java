@@ -21,6 +21,7 @@ public final class PromisesTest {
         markAndWipe();
         fits();
         fitsOfPairs();
+        everyPairIsFound();
         parts();
         named();
         safe();
@@ -410,6 +411,55 @@ public final class PromisesTest {
         C.due("no more", x.suspect(0, 0, n, 0), -1);
     }
 
+    /** Each two PARTS with each two values: the WAKE that they make has them among its SUSPECTS, in order. */
+    private static void everyPairIsFound() {
+        int[] low = {0, 0, 1, 0, 0};
+        int[] high = {8, 8, 9, 3, 2};
+        int[] first = {0, 0, 4, 0, 0};
+        int found = 0;
+        for (int p = 0; p < 5; p++) {
+            for (int q = p + 1; q < 5; q++) {
+                HuntingRudder x = with("wheel 0-off/3-turn*4;");
+                for (int v = low[p]; v <= high[p]; v++) {
+                    for (int w = low[q]; w <= high[q]; w++) {
+                        x.part(p, v);
+                        x.part(q, w);
+                        int[] off = new int[61];
+                        for (int step = 5; step <= 60; step += 5) {
+                            off[step] = x.led(300, step, 4);
+                        }
+                        x.part(p, first[p]);
+                        x.part(q, first[q]);
+                        x.wipe();
+                        for (int step = 5; step <= 60; step += 5) {
+                            x.mark(step, off[step]);
+                        }
+                        int fewest = x.fits(0, 300, 0);
+                        C.due("at most the two that failed", fewest >= 0 && fewest <= 2, true);
+                        if (fewest == 2) {
+                            found++;
+                            C.due("PARTS " + p + " " + v + ", " + q + " " + w, isAmongSuspects(x, p, v, q, w), true);
+                        }
+                    }
+                }
+            }
+        }
+        C.due("many pairs were needed: " + found, found > 100, true);
+    }
+
+    private static boolean isAmongSuspects(HuntingRudder x, int p, int v, int q, int w) {
+        boolean among = false;
+        int ahead = -1;
+        for (int k = 0; k < x.fits(0, 300, 1); k++) {
+            int[] s = {x.suspect(0, 300, k, 0), x.suspect(0, 300, k, 1), x.suspect(0, 300, k, 2), x.suspect(0, 300, k, 3)};
+            int place = s[0] << 12 | s[2] << 8 | s[1] << 4 | s[3];
+            C.due("SUSPECTS in order", place > ahead, true);
+            ahead = place;
+            among |= s[0] == p && s[1] == v && s[2] == q && s[3] == w;
+        }
+        return among;
+    }
+
     private static void parts() {
         HuntingRudder x = with("wheel 10;row 9 2;row 1 -30;row 1 30;row 1 -30;");
         x.mark(9, 0);
@@ -517,6 +567,10 @@ public final class PromisesTest {
         C.due("STEPS", x.now(5), 1);
         C.due("now(6)", x.now(6), MIN);
         C.due("now(-1)", x.now(-1), MIN);
+        C.due("back to the start", x.back(), 0);
+        C.due("as it was then", x.now(4) == -1800 && x.now(0) == 0 && x.now(1) == 0 && x.now(2) == 0 && x.now(3) == 0, true);
+        C.due("no further back", x.back(), -1);
+        C.due("the same again", x.order(-30), 1799);
         x.part(3, 1);
         C.due("LAG 1: the ORDER of the STEP ahead", x.order(12) == MIN, false);
         C.due("its WHEEL", x.now(0), -30);
