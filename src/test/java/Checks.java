@@ -17,6 +17,41 @@ final class Checks {
         due(call, got ? 1 : 0, want ? 1 : 0);
     }
 
+    /** A new object that has read a TEXT without a FAULT. */
+    HuntingRudder with(String text) {
+        HuntingRudder x = new HuntingRudder();
+        due("text of " + text, read(x, text) >= 0, true);
+        return x;
+    }
+
+    /** A TEXT without a FAULT, of so many LINES. */
+    void good(String text, int lines) {
+        HuntingRudder x = new HuntingRudder();
+        due("text of " + text, read(x, text), lines);
+        due("fault of " + text, x.fault(0), 0);
+        due("no place of " + text, x.fault(1), -1);
+    }
+
+    /** A TEXT with a FAULT, and its place. */
+    void bad(String text, int fault, int place) {
+        HuntingRudder x = new HuntingRudder();
+        due("text of " + text, read(x, text), -1);
+        due("fault of " + text, x.fault(0), fault);
+        due("place of " + text, x.fault(1), place);
+    }
+
+    /** A TEXT with a FAULT at the place where a ~ stands in it, which does not belong to it. */
+    void badAt(int fault, String marked) {
+        int place = marked.indexOf('~');
+        due("one place is marked: " + marked, place >= 0 && place == marked.lastIndexOf('~'), true);
+        bad(marked.replace("~", ""), fault, place);
+    }
+
+    /** The ORDER that a TEXT gives from OFF in the first STEP. */
+    void order(String text, int off, int due) {
+        due("order of " + text + " from " + off, with(text).led(off, 1, 5), due);
+    }
+
     void end(String name) {
         System.out.println(name + ": " + asked + " answers, " + wrong + " not as due");
         if (wrong != 0 || asked == 0) {

@@ -31,12 +31,6 @@ public final class PromisesTest {
         C.end("PromisesTest");
     }
 
-    private static HuntingRudder with(String text) {
-        HuntingRudder x = new HuntingRudder();
-        C.due("text of " + text, Checks.read(x, text) >= 0, true);
-        return x;
-    }
-
     private static void newObject() {
         HuntingRudder x = new HuntingRudder();
         int[] due = {0, 0, 0, 0, 0, 0, 10, 3, 0, 0, 0, 4, 0, 0};
@@ -71,7 +65,7 @@ public final class PromisesTest {
     }
 
     private static void text() {
-        HuntingRudder x = with("wheel 5;row 1 2;");
+        HuntingRudder x = C.with("wheel 5;row 1 2;");
         C.due("-2: not so many", x.text(1), -2);
         Checks.feed(x, "wheel 6;wheel");
         C.due("-2: below 0", x.text(-1), -2);
@@ -145,7 +139,7 @@ public final class PromisesTest {
     }
 
     private static void row() {
-        HuntingRudder x = with("row 9 - 30 0 30;row 1 1 2 3 4 5 6 7 8 9 10 11 12;");
+        HuntingRudder x = C.with("row 9 - 30 0 30;row 1 1 2 3 4 5 6 7 8 9 10 11 12;");
         C.due("row(0, 0)", Checks.row(x, 0, 0), 9);
         C.due("row(0, 1)", Checks.row(x, 0, 1), 3);
         C.due("row(0, 2)", Checks.row(x, 0, 2), -30);
@@ -164,7 +158,7 @@ public final class PromisesTest {
     }
 
     private static void led() {
-        HuntingRudder x = with("wheel 30;");
+        HuntingRudder x = C.with("wheel 30;");
         // RAM 6, 12, ..; RUDDER 4, 8, ..; TURN 4/3, (8-1)/3, (12-3)/3, (16-6)/3
         int[] ram = {0, 6, 12, 18, 24, 30, 30};
         int[] rudder = {0, 4, 8, 12, 16, 20, 24};
@@ -179,7 +173,7 @@ public final class PromisesTest {
             C.due("led order " + n, x.led(-7, n, 5), n == 0 ? 0 : 30);
         }
         C.due("beyond 1799", x.led(1799, 1, 4), -1800);
-        C.due("below -1800", with("wheel 0-30;").led(-1800, 1, 4), 1799);
+        C.due("below -1800", C.with("wheel 0-30;").led(-1800, 1, 4), 1799);
         C.due("led(-1800, 0, 4)", x.led(-1800, 0, 4), -1800);
         C.due("led(-1801, 0, 4)", x.led(-1801, 0, 4), MIN);
         C.due("led(1800, 0, 4)", x.led(1800, 0, 4), MIN);
@@ -188,13 +182,13 @@ public final class PromisesTest {
         C.due("led(0, 1500, 2)", x.led(0, 1500, 2), 30);
         C.due("led(0, 0, -1)", x.led(0, 0, -1), MIN);
         C.due("led(0, 0, 6)", x.led(0, 0, 6), MIN);
-        C.due("30 at most", with("wheel 31;").led(0, 1, 5), 30);
-        C.due("-30 at least", with("wheel 0-9999;").led(0, 1, 5), -30);
-        C.due("each NAME is of the STATE ahead", with("wheel off+turn+wheel+ram+rudder;").led(3, 2, 5), 14);
+        C.due("30 at most", C.with("wheel 31;").led(0, 1, 5), 30);
+        C.due("-30 at least", C.with("wheel 0-9999;").led(0, 1, 5), -30);
+        C.due("each NAME is of the STATE ahead", C.with("wheel off+turn+wheel+ram+rudder;").led(3, 2, 5), 14);
     }
 
     private static void ledByParts() {
-        HuntingRudder x = with("wheel 10;");
+        HuntingRudder x = C.with("wheel 10;");
         x.part(3, 2);
         C.due("LAG 2: WHEEL behind 2", x.led(0, 2, 0), 0);
         C.due("LAG 2: ORDER behind 2", x.led(0, 2, 5), 10);
@@ -227,14 +221,14 @@ public final class PromisesTest {
         x.ship(2, -9);
         C.due("TURN by SPEED and INERTIA", x.led(0, 2, 3), 1);
         C.due("OFF by TURN and WIND", x.led(0, 2, 4), -17);
-        HuntingRudder y = with("wheel 0-7;");
+        HuntingRudder y = C.with("wheel 0-7;");
         y.ship(0, 1);
         y.ship(1, 1);
         C.due("quotients are cut towards 0", y.led(0, 9, 3), 0);
     }
 
     private static void steer() {
-        HuntingRudder x = with("wheel 1;row 2 10 -10;");
+        HuntingRudder x = C.with("wheel 1;row 2 10 -10;");
         int[] order = {0, 10, 10, -10, -10, -10, -10};
         for (int n = 0; n < order.length; n++) {
             C.due("steer order " + n, x.steer(0, 5, n, 5), order[n]);
@@ -266,7 +260,7 @@ public final class PromisesTest {
         C.due("no PERIOD", x.hunt(0, 2), -1);
         C.due("SWING of all STEPS", x.hunt(0, 3), 1500);
         // One order of 30, then its echo dies out: the three ORDERS ahead belong to the STATE.
-        HuntingRudder y = with("if off=3 wheel 1;");
+        HuntingRudder y = C.with("if off=3 wheel 1;");
         y.part(1, 8);
         C.due("ORDERS belong to the STATE", y.hunt(3, 1), 3);
         C.due("a wheel that stays put, later", y.hunt(4, 1), 0);
@@ -299,7 +293,7 @@ public final class PromisesTest {
     }
 
     private static void holds() {
-        HuntingRudder x = with("wheel 0-off*9;");
+        HuntingRudder x = C.with("wheel 0-off*9;");
         C.due("nothing moves", x.holds(0, 500), 1);
         x.ship(2, 1);
         int speed = x.holds(3, 200);
@@ -342,7 +336,7 @@ public final class PromisesTest {
     }
 
     private static void fits() {
-        HuntingRudder x = with("wheel 10;");
+        HuntingRudder x = C.with("wheel 10;");
         C.due("without MARKS all fits", x.fits(0, 0, 0), 0);
         C.due("one SUSPECT without PARTS", x.fits(0, 0, 1), 1);
         C.due("none in all", x.fits(0, 0, 3), 0);
@@ -388,7 +382,7 @@ public final class PromisesTest {
     }
 
     private static void fitsOfPairs() {
-        HuntingRudder x = with("wheel 12;row 1 30;row 9 5;");
+        HuntingRudder x = C.with("wheel 12;row 1 30;row 9 5;");
         // RATE and LAG have failed: OFF first goes with STEP 3, and fast then.
         x.part(2, 6);
         x.part(3, 2);
@@ -419,9 +413,9 @@ public final class PromisesTest {
         int found = 0;
         for (int p = 0; p < 5; p++) {
             for (int q = p + 1; q < 5; q++) {
-                HuntingRudder x = with("wheel 0-off/3-turn*4;");
                 for (int v = low[p]; v <= high[p]; v++) {
                     for (int w = low[q]; w <= high[q]; w++) {
+                        HuntingRudder x = C.with("wheel 0-off/3-turn*4;");
                         x.part(p, v);
                         x.part(q, w);
                         int[] off = new int[61];
@@ -430,7 +424,6 @@ public final class PromisesTest {
                         }
                         x.part(p, first[p]);
                         x.part(q, first[q]);
-                        x.wipe();
                         for (int step = 5; step <= 60; step += 5) {
                             x.mark(step, off[step]);
                         }
@@ -461,7 +454,7 @@ public final class PromisesTest {
     }
 
     private static void parts() {
-        HuntingRudder x = with("wheel 10;row 9 2;row 1 -30;row 1 30;row 1 -30;");
+        HuntingRudder x = C.with("wheel 10;row 9 2;row 1 -30;row 1 30;row 1 -30;");
         x.mark(9, 0);
         // SUSPECTS AIR 8, PIN 8 and VALVE 1: by 2 none moves OFF; by -30 AIR starts with -6, PIN
         // later, VALVE 1 as if nothing had failed; by 30 VALVE 1 stays.
@@ -486,7 +479,7 @@ public final class PromisesTest {
     }
 
     private static void named() {
-        HuntingRudder x = with("gear z;gear abcdef if z;gear ab;");
+        HuntingRudder x = C.with("gear z;gear abcdef if z;gear ab;");
         C.due("z", x.named(Checks.letters("z")), 0);
         C.due("abcdef", x.named(Checks.letters("abcdef")), 1);
         C.due("ab", x.named(Checks.letters("ab")), 2);
@@ -499,7 +492,7 @@ public final class PromisesTest {
     }
 
     private static void safe() {
-        HuntingRudder x = with("safe a and not b or c;gear a;gear b;gear c;");
+        HuntingRudder x = C.with("safe a and not b or c;gear a;gear b;gear c;");
         int[] due = {0, 1, 0, 0, 1, 1, 1, 1};
         for (int gears = 0; gears < 8; gears++) {
             C.due("safe(" + gears + ")", x.safe(gears), due[gears]);
@@ -507,15 +500,15 @@ public final class PromisesTest {
         C.due("safe(8)", x.safe(8), -1);
         C.due("safe(-1)", x.safe(-1), -1);
         C.due("safe(MIN)", x.safe(MIN), -1);
-        HuntingRudder y = with("gear a;gear b;gear c;gear d;gear e;gear f;safe f;");
+        HuntingRudder y = C.with("gear a;gear b;gear c;gear d;gear e;gear f;safe f;");
         C.due("six GEARS", y.safe(63), 1);
         C.due("six GEARS, the last off", y.safe(31), 0);
         C.due("a seventh bit", y.safe(64), -1);
-        C.due("without safe", with("gear a;").safe(0), 1);
+        C.due("without safe", C.with("gear a;").safe(0), 1);
     }
 
     private static void drill() {
-        HuntingRudder x = with("gear a;gear b;gear c;");
+        HuntingRudder x = C.with("gear a;gear b;gear c;");
         int[] due = {3, 0, 1, 2, -1};
         for (int what = 0; what < due.length; what++) {
             C.due("drill(0, 7, " + what + ")", x.drill(0, 7, what), due[what]);
@@ -527,7 +520,7 @@ public final class PromisesTest {
         C.due("a below 0", x.drill(-1, 0, 0), -1);
         C.due("b below 0", x.drill(0, MIN, 0), -1);
         C.due("what far", x.drill(0, 7, MAX), -1);
-        HuntingRudder y = with("gear a if b;gear b if not a;safe not (a and not b);");
+        HuntingRudder y = C.with("gear a if b;gear b if not a;safe not (a and not b);");
         int[] both = {2, 1, 0};
         for (int what = 0; what < both.length; what++) {
             C.due("by GEARS ahead " + what, y.drill(0, 3, what), both[what]);
@@ -536,7 +529,7 @@ public final class PromisesTest {
         C.due("-2 for its GEARS too", y.drill(3, 1, 1), -2);
         C.due("ahead of it safe isn't asked", y.drill(1, 1, 0), 0);
         // A Gray code: a turns freely, each other one only behind a one that follows zeros.
-        HuntingRudder z = with("gear a;gear b if a;gear c if b and not a;gear d if c and not b and not a;"
+        HuntingRudder z = C.with("gear a;gear b if a;gear c if b and not a;gear d if c and not b and not a;"
             + "gear e if d and not c and not b and not a;gear f if e and not d and not c and not b and not a;");
         C.due("63 changes", z.drill(0, 32, 0), 63);
         C.due("the first", z.drill(0, 32, 1), 0);
@@ -595,7 +588,7 @@ public final class PromisesTest {
     }
 
     private static void count() {
-        HuntingRudder x = with("wheel 1+off;if not (turn=0) wheel 2;gear a if a or not b;gear b;safe b;row 1 -1;row 2 2;row 3 3;");
+        HuntingRudder x = C.with("wheel 1+off;if not (turn=0) wheel 2;gear a if a or not b;gear b;safe b;row 1 -1;row 2 2;row 3 3;");
         int[] due = {2, 2, 3, 3 + 4 + 1, 4 + 1, 0};
         for (int what = 0; what < due.length; what++) {
             C.due("count(" + what + ")", x.count(what), due[what]);
