@@ -52,6 +52,7 @@ public final class LanguageEdgesTest {
         truth();
         bothSidesAreWorkedOut();
         trillion();
+        productsThatGoRound();
         divisions();
         longs();
         C.end("LanguageEdgesTest");
@@ -706,6 +707,23 @@ public final class LanguageEdgesTest {
         C.order("wheel (1000*1000+1)*(1000*1000-1)*0+5;", 0, 5);
         C.order("wheel (1000*1000+1)*(1000*1000)*0+5;", 0, 0);
         C.order("wheel (0-1000*1000-1)*(1000*1000)*0+5;", 0, 0);
+    }
+
+    /** Two VALUES whose product is 2 to the 64: in a long that would be 0 again, which is no ERROR. */
+    private static void productsThatGoRound() {
+        for (int power = 25; power <= 39; power++) {
+            String a = powerOfTwo(power);
+            String b = powerOfTwo(64 - power);
+            C.order("wheel (" + a + ")*0+(" + b + ")*0+5;", 0, 5);
+            C.order("wheel (" + a + ")*(" + b + ")+5;", 0, 0);
+            C.order("wheel (0-" + a + ")*(" + b + ")+5;", 0, 0);
+            C.order("wheel (" + a + ")*(0-" + b + ")+5;", 0, 0);
+            C.order("if (" + a + ")*(" + b + ")=0 wheel 5;wheel 6;", 0, 6);
+        }
+    }
+
+    private static String powerOfTwo(int power) {
+        return "8192*" + (1 << Math.min(13, power - 13)) + "*" + (1 << Math.max(0, power - 26));
     }
 
     /** "/ by 0"; "All quotients are cut towards 0." */

@@ -86,6 +86,18 @@ final class PlainModel {
         return tape.size();
     }
 
+    /** Feeds the signs of a text, filled up with blanks. */
+    void feedText(String signs) {
+        for (int at = 0; at < signs.length(); at += 20) {
+            int[] numbers = new int[5];
+            for (int k = 0; k < 20; k++) {
+                int sign = at + k < signs.length() ? signs.charAt(at + k) & 255 : ' ';
+                numbers[k / 4] = numbers[k / 4] << 8 | sign;
+            }
+            feed(numbers);
+        }
+    }
+
     int text(int n) {
         if (n < 0 || n > tape.size()) {
             return -2;

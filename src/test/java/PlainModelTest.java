@@ -1,7 +1,13 @@
 import java.util.Random;
 
-/** Asks the class and the plain model the same, along runs of calls made by a seed. */
+/**
+ * Asks the class and the plain model the same, along runs of calls made by a seed. What an object
+ * answers behind its 512th call is free, so each run ends ahead of that.
+ */
 public final class PlainModelTest {
+    private static final int CALLS_MOST = 512;
+    /** More than the dearest round of a run calls. */
+    private static final int ROUND_MOST = 90;
     private static final String[] LAWS = {
         "wheel 0-off/10;", "wheel 0-off/4-turn*3;", "if off>0 wheel 0-30;if off<0 wheel 30;", "wheel 0-off;",
         "if off>100 or off<0-100 wheel 0-off/5;wheel 0-off-turn*8;", "if turn wheel 0-turn*9;wheel 0-off/8;",
@@ -17,6 +23,8 @@ public final class PlainModelTest {
     private final Checks checks;
     private HuntingRudder x;
     private PlainModel y;
+    /** How many calls the object has had. */
+    private int calls;
 
     private PlainModelTest(long seed, Checks checks) {
         this.random = new Random(seed);
@@ -25,12 +33,10 @@ public final class PlainModelTest {
 
     public static void main(String[] args) {
         Checks checks = new Checks();
-        int seeds = args.length > 0 ? Integer.parseInt(args[0]) : 60;
+        int seeds = args.length > 0 ? Integer.parseInt(args[0]) : 800;
         for (int seed = 0; seed < seeds; seed++) {
             new PlainModelTest(seed, checks).textRun();
             new PlainModelTest(seed, checks).callRun();
-        }
-        for (int seed = 0; seed < 6 * seeds; seed++) {
             new PlainModelTest(seed, checks).suspectRun();
         }
         checks.end("PlainModelTest");
@@ -195,33 +201,37 @@ public final class PlainModelTest {
     private void read(String text) {
         String cut = text.length() > 600 ? text.substring(0, 600) : text;
         Checks.feed(x, cut);
-        feedModel(cut);
+        calls += (cut.length() + 19) / 20;
+        y.feedText(cut);
         int n = below(40) == 0 ? near(0, 600) : cut.length();
         ask("text(" + n + ") of \"" + cut + "\"", x.text(n), y.text(n));
         ask("fault(0) of \"" + cut + "\"", x.fault(0), y.fault(0));
         ask("fault(1) of \"" + cut + "\"", x.fault(1), y.fault(1));
     }
 
-    private void feedModel(String text) {
-        for (int at = 0; at < text.length(); at += 20) {
-            int[] numbers = new int[5];
-            for (int k = 0; k < 20; k++) {
-                int sign = at + k < text.length() ? text.charAt(at + k) & 255 : ' ';
-                numbers[k / 4] = numbers[k / 4] << 8 | sign;
-            }
-            y.feed(numbers);
-        }
+    private void ask(String call, long got, long want) {
+        calls++;
+        checks.due(call, got, want);
     }
 
-    private void ask(String call, long got, long want) {
-        checks.due(call, got, want);
+    private void begin() {
+        x = new HuntingRudder();
+        y = new PlainModel();
+        calls = 0;
+    }
+
+    private boolean hasRoom() {
+        return calls + ROUND_MOST <= CALLS_MOST;
+    }
+
+    private void end() {
+        checks.due("calls of one object: " + calls, calls <= CALLS_MOST, true);
     }
 
     /** Many texts, good and bad, and what can be seen of them cheaply. */
     private void textRun() {
-        x = new HuntingRudder();
-        y = new PlainModel();
-        for (int k = 0; k < 150; k++) {
+        begin();
+        while (hasRoom()) {
             String text = below(4) == 0 ? strangeText() : goodText();
             read(below(2) == 0 ? spoiled(text) : text);
             for (int what = -1; what < 6; what++) {
@@ -232,14 +242,15 @@ public final class PlainModelTest {
             int gears = below(64);
             ask("safe(" + gears + ") behind \"" + text + "\"", x.safe(gears), y.safe(gears));
         }
+        end();
     }
 
     // ---- calls ----
 
     private void callRun() {
-        x = new HuntingRudder();
-        y = new PlainModel();
-        for (int k = 0; k < 250; k++) {
+        begin();
+        read(goodText());
+        while (hasRoom()) {
             switch (below(16)) {
                 case 0:
                     read(below(4) == 0 ? spoiled(goodText()) : goodText());
@@ -276,58 +287,60 @@ public final class PlainModelTest {
             int what = near(0, 13);
             ask("count(" + what + ")", x.count(what), y.count(what));
         }
+        end();
     }
 
     /** MARKS and distances by which just one or two PARTS must fail, and many SUSPECTS fit. */
     private void suspectRun() {
-        x = new HuntingRudder();
-        y = new PlainModel();
-        for (int k = 0; k < 6; k++) {
-            read(LAWS[below(LAWS.length)] + rows(from(2, 6)));
-            askSettings();
-            x.wipe();
-            y.wipe();
-            int off = from(-300, 300);
-            int step = from(5, 60);
-            int seen = from(-1800, 1799);
-            if (below(4) > 0) {
-                int[] were = {x.count(9), x.count(10), x.count(11), x.count(12), x.count(13)};
-                x.part(below(5), from(0, 9));
-                x.part(below(5), from(0, 9));
-                seen = x.led(off, step, 4);
-                for (int part = 0; part < 5; part++) {
-                    x.part(part, were[part]);
-                }
-            }
-            ask("mark", x.mark(step, seen), y.mark(step, seen));
-            int none = Math.abs(x.led(off, step, 4) - seen);
-            int one = nearestByOne(off, step, seen);
-            askAllOf(Math.max(0, Math.min(none, one + below(4)) - below(2)), off);
-            askAllOf(Math.max(0, one - 1), off);
+        begin();
+        read(LAWS[below(LAWS.length)] + rows(from(2, 6)));
+        askSettings();
+        int off = from(-300, 300);
+        int step = from(5, 60);
+        int seen = below(4) > 0 ? seenOfTwo(off, step) : from(-1800, 1799);
+        ask("mark", x.mark(step, seen), y.mark(step, seen));
+        int none = Math.abs(y.led(off, step, 4) - seen);
+        int one = nearestByOne(off, step, seen);
+        askAllOf(Math.max(0, Math.min(none, one + below(4)) - below(2)), off);
+        askAllOf(Math.max(0, one - 1), off);
+        end();
+    }
+
+    /** OFF behind a STEP with two PARTS that have failed, at most. */
+    private int seenOfTwo(int off, int step) {
+        int[] were = {y.count(9), y.count(10), y.count(11), y.count(12), y.count(13)};
+        y.part(below(5), from(0, 9));
+        y.part(below(5), from(0, 9));
+        int seen = y.led(off, step, 4);
+        for (int part = 0; part < 5; part++) {
+            y.part(part, were[part]);
         }
+        return seen;
     }
 
     /** How near one PART that fails can bring OFF behind a STEP to what was seen. */
     private int nearestByOne(int off, int step, int seen) {
-        int nearest = Math.abs(x.led(off, step, 4) - seen);
+        int nearest = Math.abs(y.led(off, step, 4) - seen);
         for (int part = 0; part < 5; part++) {
-            int was = x.count(9 + part);
+            int was = y.count(9 + part);
             for (int value = 0; value <= 9; value++) {
-                if (x.part(part, value)) {
-                    nearest = Math.min(nearest, Math.abs(x.led(off, step, 4) - seen));
+                if (y.part(part, value)) {
+                    nearest = Math.min(nearest, Math.abs(y.led(off, step, 4) - seen));
                 }
             }
-            x.part(part, was);
+            y.part(part, was);
         }
         return nearest;
     }
 
+    /** All of the SUSPECTS, or some forty of them with the first and the last, where there are more. */
     private void askAllOf(int d, int off) {
         for (int what = 0; what < 4; what++) {
             ask("fits(" + d + ", " + off + ", " + what + ")", x.fits(d, off, what), y.fits(d, off, what));
         }
         int suspects = y.fits(d, off, 1);
-        for (int k = 0; k <= suspects; k++) {
+        int by = suspects / 40 + 1;
+        for (int k = 0; k <= suspects; k += k + by <= suspects - 1 ? by : 1) {
             for (int what = 0; what < 4; what++) {
                 ask("suspect(" + d + ", " + off + ", " + k + ", " + what + ")", x.suspect(d, off, k, what), y.suspect(d, off, k, what));
             }

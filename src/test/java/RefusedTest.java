@@ -53,7 +53,7 @@ public final class RefusedTest {
     // ---- objects ----
 
     /** An object with something of everything: TEXT, a FAULT, PARTS, SHIP, MARKS, a trial, a TAPE of 20. */
-    private static HuntingRudder furnished() {
+    static HuntingRudder furnished() {
         HuntingRudder x = new HuntingRudder();
         Checks.read(x, TEXT);
         Checks.read(x, "wheel 1;;");

@@ -34,6 +34,7 @@ public final class TermsEdgesTest {
         huntSettlesOrHunts();
         huntFromEveryOff();
         huntsThatAreLong();
+        huntsOfMoreThan1024States();
         huntOfWholeStates();
         swingOfThePeriodAlone();
         worstGoesUpToB();
@@ -358,6 +359,30 @@ public final class TermsEdgesTest {
             }
         }
         C.due("one was long", longOne, true);
+    }
+
+    /** HUNTS of 1025 to 1500 STATES that are all different: FIRST is found among the earliest of them, too. */
+    private static void huntsOfMoreThan1024States() {
+        String[] laws = {"wheel off/393-turn;", "wheel 0-off/133+turn*3;", "wheel 0-off/145+turn*15;", "wheel off/320;",
+            "if off>196 wheel 11;wheel off/246;", "wheel off/392;", "wheel off/155-turn;"};
+        int[][] told = {{-6, 2, 0, 1561}, {4, 1, 3, 759}, {-5, 0, 0, 1001}, {9, 0, 0, 1452}, {8, 0, 0, -1582}, {9, 0, 1, 455}, {-7, 1, 0, 746}};
+        for (int k = 0; k < laws.length; k++) {
+            HuntingRudder x = C.with(laws[k]);
+            PlainModel y = new PlainModel();
+            y.feedText(laws[k]);
+            C.due("the plain model's text", y.text(laws[k].length()) > 0, true);
+            x.ship(WIND, told[k][0]);
+            y.ship(WIND, told[k][0]);
+            x.part(LAG, told[k][1]);
+            y.part(LAG, told[k][1]);
+            x.part(AIR, told[k][2]);
+            y.part(AIR, told[k][2]);
+            int off = told[k][3];
+            C.due("so many STATES", y.hunt(off, 1) + y.hunt(off, 2) > 1024, true);
+            for (int what = 0; what < 4; what++) {
+                C.due(laws[k] + " hunt " + what, x.hunt(off, what), y.hunt(off, what));
+            }
+        }
     }
 
     private static int[] huntByLed(String law, int wind, int off) {
